@@ -1,3 +1,9 @@
+import java.util.ArrayList;
+import java.util.Arrays;
+import java.util.HashSet;
+import java.util.List;
+import java.util.Set;
+
 /** Promise by promise: ordinary inputs, the edges that the document names, and wrong inputs. */
 public final class PromiseTest {
     private static final int NONE = WashLine.NONE;
@@ -317,6 +323,12 @@ public final class PromiseTest {
         lawFault("goes (1)", 5);
         lawFault("goes [1", 7);
         lawFault("goes [1)", 7);
+        lawFault("goes [1+]", 8);
+        lawFault("goes [;bars", 6);
+        lawFault("bars if (;bars", 9);
+        lawFault("bars if (1=)", 11);
+        lawFault("barsz", 0);
+        lawFault("bars if zif", 8);
         lawFault("goes 1]", 6);
         lawFault("goes done", 5);
         lawFault("goes cell 0", 10);
@@ -360,6 +372,7 @@ public final class PromiseTest {
         ordersFault("pass times", 10);
         ordersFault("pass times 0", 11);
         ordersFault("pass times 21", 11);
+        ordersFault("pass times 1", NONE);
         ordersFault("pass times 020", NONE);
         ordersFault("pass times day", 11);
         ordersFault("pass if 1=1 times 2", 12);
@@ -491,6 +504,8 @@ public final class PromiseTest {
         Due.is("ways", told(x, "ways"), 2);
         Due.is("cell 1", told(x, "cell 1"), 3);
         Due.is("powder 1", told(x, "powder 1"), 2);
+        Due.is("cell 0", told(x, "cell 0"), 0);
+        Due.is("powder 0", told(x, "powder 0"), 3);
         Due.is("no ship 2", told(x, "cell 2 + 1"), 0);
         Due.is("no ship 2", told(x, "powder 2 + 1"), 0);
         Due.is("done counts each time", Due.orders(x, "pass times 3 if done<2; pass if done=2; hang 0 if done=3"), 4);
@@ -610,6 +625,10 @@ public final class PromiseTest {
         sailed("1, then 2, then barred", x, 15, 0, 3);
         Due.is("no day passes", x.count(13), 0);
         Due.is("the line stays", x.count(2), 4);
+        x = withLaw("bars if sign=0-1 and long=0-1 and means=2; goes 2 if sign=0-1 and long=0-1");
+        hang(x, 1, 0);
+        x.sail(0);
+        sailed("neither sign nor long", x, 10, 0, 3);
         x = withLaw("bars if means=4 and powder<3; weighs 10*powder if sign=2");
         hang(x, 0, 1, 0, 1);
         Due.is("weighs as the ship is ahead of the line", x.sail(0), 4);
@@ -653,6 +672,23 @@ public final class PromiseTest {
         Due.is("nor do others", x.count(5), 1);
         x.ship(1, 0, 0);
         Due.is("nothing ahead of a ship()", x.undo(), -3);
+        x.sail(1);
+        Due.is("ship 1", x.of(1, 0), 6);
+        Due.is("a sail", x.undo(), 2);
+        Due.is("ship 1", x.of(1, 0), 1);
+        Due.is("ship 0", x.of(0, 0), 0);
+        for (int k = 0; k < 6; k++) {
+            x.hang(k % 3);
+            x.pass();
+            x.take();
+        }
+        int[] kinds = {0, 3, 1};
+        for (int k = 17; k > 1; k--) {
+            Due.is("the latest 16, undo " + k, x.undo(), kinds[k % 3]);
+        }
+        Due.is("undo()", x.undo(), -3);
+        Due.is("count(2)", x.count(2), 2);
+        Due.is("day", x.count(13), 1);
         x.hang(2);
         x.terms(2, 0);
         Due.is("nothing ahead of a terms()", x.undo(), -3);
@@ -664,7 +700,7 @@ public final class PromiseTest {
             Due.is("undo()", x.undo(), 3);
         }
         Due.is("undo()", x.undo(), -3);
-        Due.is("day", x.count(13), 4);
+        Due.is("day", x.count(13), 5);
         Due.is("status()", x.status(), -3);
     }
 
@@ -823,6 +859,16 @@ public final class PromiseTest {
         x.force(1);
         row("over it", x, 15, 1, 0);
         row("not into it", x, 5, NONE);
+        Due.law(x, "bars if cell=10 and means=0; bars if means=4 and cell<5");
+        x.force(2);
+        row("up to it", x, 10, 2, 0, 0);
+        row("not out of it", x, 15, NONE);
+        Due.law(x, "bars if powder=3 and means=0");
+        x.force(3);
+        row("behind a shot", x, 5, 2, 1, 0);
+        Due.law(x, "bars if powder=3 and means=0; bars if means=4 and cell=0");
+        x.force(4);
+        row("never", x, 5, NONE);
         x = new WashLine();
         x.ship(0, 0, 0);
         x.sign(11, 0);
@@ -866,27 +912,23 @@ public final class PromiseTest {
         mended("too short", x, NONE);
     }
 
-    /** The shortest line, up to a length, that has two readings by such rows: all lines are tried. */
-    private static int tried(int most, int... rows) {
+    /** The length, up to a bound, of the shortest line that has two readings: all rows of signs are listed. */
+    private static int listed(int most, int... rows) {
+        List<Set<String>> lines = new ArrayList<>();
+        lines.add(Set.of(""));
         for (int n = 1; n <= most; n++) {
-            for (int line = 0; line < 1 << 2 * n; line++) {
-                int[] ways = new int[n + 1];
-                ways[0] = 1;
-                for (int to = 1; to <= n; to++) {
-                    for (int row : rows) {
-                        String digits = Integer.toString(row);
-                        boolean same = digits.length() <= to;
-                        for (int k = 0; same && k < digits.length(); k++) {
-                            int place = to - digits.length() + k;
-                            same = (line >> 2 * (n - 1 - place) & 3) == digits.charAt(k) - '1';
+            Set<String> here = new HashSet<>();
+            for (int row : rows) {
+                String last = Integer.toString(row);
+                if (last.length() <= n) {
+                    for (String line : lines.get(n - last.length())) {
+                        if (!here.add(line + last)) {
+                            return n;
                         }
-                        ways[to] += same ? ways[to - digits.length()] : 0;
                     }
                 }
-                if (ways[n] > 1) {
-                    return n;
-                }
             }
+            lines.add(here);
         }
         return NONE;
     }
@@ -902,15 +944,18 @@ public final class PromiseTest {
     private static void p29and30() {
         int[][] books = {{}, {1}, {1, 2}, {1, 2, 12}, {1, 11}, {12, 21}, {12, 1, 2222, 22}, {1, 21, 12}, {1, 12, 22},
             {1, 1222, 2}, {12, 122, 2}, {112, 1, 21}, {1212, 12}, {121, 212, 12, 21}, {1112, 111, 2111},
-            {3, 31, 13}, {4444, 44}, {444, 4444}, {1, 12, 123, 1234}, {2, 21, 321, 4321}, {12, 23, 31, 1231}};
+            {3, 31, 13}, {4444, 44}, {444, 4444}, {1, 12, 123, 1234}, {2, 21, 321, 4321}, {12, 23, 31, 1231},
+            {1221, 1112, 1, 211, 2212}, {1222, 2121, 112, 211, 122, 1}, {4433, 443, 4, 1134, 3444, 3122}};
         for (int[] rows : books) {
-            int due = tried(8, rows);
+            int due = listed(8, rows);
             int got = book(rows).twofold();
-            Due.holds("twofold of " + java.util.Arrays.toString(rows) + ": " + got, due == got || due == NONE && got > 8);
+            Due.holds("twofold of " + Arrays.toString(rows) + ": " + got, due == got || due == NONE && got > 8);
         }
         Due.is("long: 1 12 22", book(1, 12, 22).twofold(), NONE);
         Due.is("444 4444", book(444, 4444).twofold(), 7);
-        Due.is("longer than a line", book(1112, 1, 2111, 2222, 2221).twofold(), tried(9, 1112, 1, 2111, 2222, 2221));
+        int[] longer = {3231, 3133, 2212, 1232, 312, 2323, 323};
+        Due.is("longer than a line has cloths, listed", listed(18, longer), 18);
+        Due.is("longer than a line has cloths", book(longer).twofold(), 18);
         Due.is("struck(0), none", book().struck(0), 0);
         Due.is("struck(1), none", book().struck(1), 0);
         Due.is("struck(0)", book(1, 2, 12).struck(0), 1);
@@ -984,6 +1029,7 @@ public final class PromiseTest {
         Due.is("few(1, 3)", x.few(1, 3), whole / 8);
         Due.is("few(2, 3)", x.few(2, 3), whole / 2);
         Due.is("few(20, 3)", x.few(20, 3), whole);
+        Due.is("few(20, 0)", x.few(20, 0), whole);
         int[][] wrong = {{0, 0}, {21, 0}, {1, -1}, {1, 100}, {FAR_OFF, 0}, {1, FAR_BELOW}};
         for (int[] w : wrong) {
             Due.is("few(" + w[0] + ", " + w[1] + ")", x.few(w[0], w[1]), NONE);
@@ -1056,6 +1102,49 @@ public final class PromiseTest {
         Due.is("one day", x.months(0, 60), x.months(0, 1));
     }
 
+    /** The draws by hand: from 7 the first six are 20066, 145077, 31796, 83228, 812556, 258925. */
+    private static void p37draws() {
+        long s = 7;
+        int[] due = {20066, 145077, 31796, 83228, 812556, 258925};
+        for (int k = 0; k < due.length; k++) {
+            s = (s * 1103 + 12345) % 1000003;
+            Due.is("draw " + k, s, due[k]);
+        }
+        // Cloths 2, 0, 0; ships (of two) 1, 0, 1.
+        WashLine x = new WashLine();
+        x.sign(1, 0);
+        x.sign(2, 1);
+        x.sign(3, 2);
+        x.ship(0, 0, 0);
+        x.ship(12, 0, 0);
+        Due.is("months(7, 3)", x.months(7, 3), 3);
+        Due.is("ship 0 went ahead", x.drawn(0, 0), 5);
+        Due.is("ship 0", x.drawn(0, 1), 0);
+        Due.is("ship 1: right, then ahead", x.drawn(1, 0), 13);
+        Due.is("ship 1", x.drawn(1, 1), 1);
+        Due.is("months(7, 1)", x.months(7, 1), 1);
+        Due.is("ship 1: right", x.drawn(1, 1), 1);
+        // Ships of three: 145077 modulo 3 is 0, 83228 is 2, 258925 is 1.
+        x.ship(4, 3, 0);
+        Due.is("months(7, 3)", x.months(7, 3), 3);
+        Due.is("ship 0: right", x.drawn(0, 1), 1);
+        Due.is("ship 1: ahead", x.drawn(1, 0), 17);
+        Due.is("ship 2: ahead", x.drawn(2, 0), 3);
+        // A sign of two cloths: nothing is read until both hang, then the ship of that time sails.
+        WashLine y = new WashLine();
+        y.sign(31, 4);
+        y.ship(0, 0, 9);
+        y.ship(0, 0, 9);
+        Due.is("months(7, 1)", y.months(7, 1), 0);
+        Due.is("months(7, 2)", y.months(7, 2), 1);
+        Due.is("ship 0 fired", y.drawn(0, 2), 8);
+        Due.is("ship 1 did not", y.drawn(1, 2), 9);
+        y.hang(2);
+        y.hang(0);
+        Due.is("what hangs there already counts", y.months(7, 2), 1);
+        Due.is("it was read as a row of two", y.drawn(0, 2), 7);
+    }
+
     private static void p37line() {
         WashLine x = new WashLine();
         x.ship(0, 0, 0);
@@ -1117,7 +1206,8 @@ public final class PromiseTest {
         x.ship(24, 1, 1);
         Due.law(x, "goes 3");
         x.force(1);
-        x.seen(1);
+        x.forget();
+        x.seen(0);
         x.take();
         x.terms(0, 0);
         x.terms(1, 0);
@@ -1126,6 +1216,7 @@ public final class PromiseTest {
         Due.law(x, "bars 7");
         Due.orders(x, "take times 9");
         x.months(3, 9);
+        int months = x.drawn(1, 0);
         row(x, 9, 9);
         x.feed(1, 1, 1, 1, 1);
         Due.is("back(1)", x.back(1), 0);
@@ -1135,10 +1226,13 @@ public final class PromiseTest {
         }
         sailed("the ship", x, 0, 0, 3);
         Due.is("the line", x.line(1), 1);
+        Due.is("what a sign means", x.at(3, 1), 3);
+        Due.is("done: about", x.fits(), 0);
         Due.is("soap() stays", x.soap(), 1);
         Due.is("fault() stays", x.fault(), NONE);
         Due.is("stopped() stays", x.stopped(), 0);
-        Due.holds("the latest months stay", x.drawn(1, 0) != NONE);
+        Due.is("the latest months stay", x.drawn(1, 0), months);
+        Due.holds("of a ship that is gone", months != NONE);
         Due.is("nothing can be undone", x.undo(), -3);
         Due.is("the law", x.asks(0, 0, 1), 2);
         x.end(0);
@@ -1152,6 +1246,20 @@ public final class PromiseTest {
         Due.is("another law of that number", x.asks(0, 0, 1), 0);
         Due.is("back(1)", x.back(1), 0);
         Due.is("the law of the image", x.asks(0, 0, 1), 4);
+        WashLine y = new WashLine();
+        y.image(0);
+        y.sign(12, 3);
+        y.ship(3, 2, 1);
+        y.image(1);
+        y.back(0);
+        y.sign(431, 4);
+        y.ship(7, 0, 9);
+        y.back(1);
+        int[] sign = {2, 3, 0, 1, NONE};
+        for (int what = 0; what < 5; what++) {
+            Due.is("the sign of the image", y.at(0, what), sign[what]);
+        }
+        sailed("the ship of the image", y, 3, 2, 1);
         x.hang(0);
         Due.is("images stay", x.back(1), 0);
         Due.is("count(2)", x.count(2), 2);
@@ -1290,6 +1398,7 @@ public final class PromiseTest {
         p36();
         Due.part("promises 37, 38");
         p37and38();
+        p37draws();
         p37line();
         Due.part("promises 39, 40");
         p39and40();

@@ -28,6 +28,10 @@ final class Due {
         return wrong;
     }
 
+    static int asked() {
+        return asked;
+    }
+
     /** Puts bytes (characters 0 to 255) behind the tape. */
     static void put(WashLine x, String bytes) {
         int had = x.count(6);

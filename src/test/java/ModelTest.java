@@ -334,7 +334,7 @@ public final class ModelTest {
         limits();
         for (long seed = first; seed < first + many && Due.wrong() < 20; seed++) {
             Due.part("seed " + seed);
-            new ModelTest(seed).run(480);
+            new ModelTest(seed).run(430);
         }
         Due.finish("ModelTest");
     }

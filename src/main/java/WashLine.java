@@ -1024,7 +1024,9 @@ public final class WashLine {
                     return false;
                 }
                 // It lands at the next jump of its row, which goes on in the same way.
-                draft.code[jump] += draft.size;
+                if (jump < draft.size) {
+                    draft.code[jump] += draft.size;
+                }
             }
             return true;
         }

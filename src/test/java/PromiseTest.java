@@ -12,30 +12,6 @@ public final class PromiseTest {
 
     private PromiseTest() { }
 
-    /** Signs 0 AHEAD by a, 1 RIGHT by b, 2 FIRE by ab, 3 ABOUT by cc; a ship at 0, up, with powder 3. */
-    private static WashLine ordinary() {
-        WashLine x = new WashLine();
-        x.sign(1, 0);
-        x.sign(2, 2);
-        x.sign(12, 4);
-        x.sign(33, 3);
-        x.ship(0, 0, 3);
-        return x;
-    }
-
-    private static void hang(WashLine x, int... cloths) {
-        for (int cloth : cloths) {
-            x.hang(cloth);
-        }
-    }
-
-    private static WashLine withLaw(String text) {
-        WashLine x = ordinary();
-        Due.is(text, Due.law(x, text), 0);
-        x.force(0);
-        return x;
-    }
-
     private static void p1() {
         WashLine x = new WashLine();
         int[] counts = {0, 0, 0, 0, 0, 0, 0, 0, 0, 0, 0, 0, NONE, 0, 5, 0};
@@ -121,11 +97,11 @@ public final class PromiseTest {
     }
 
     private static void p6() {
-        WashLine x = ordinary();
+        WashLine x = Edge.ordinary();
         Due.is("without a law: LONG", x.asks(0, 3, 0), 2);
         Due.is("without a law: 1", x.asks(0, -77, 1), 1);
         Due.is("without a law: not barred", x.asks(0, 5, 2), 0);
-        x = withLaw("weighs sign*10+long if means>0; weighs 200 if sign=3; goes 9-cell; bars if means=4 and powder=3; bars if means=1");
+        x = Edge.ordinary("weighs sign*10+long if means>0; weighs 200 if sign=3; goes 9-cell; bars if means=4 and powder=3; bars if means=1");
         int[] weights = {1, 11, 22, 99};
         for (int k = 0; k < 4; k++) {
             Due.is("weighs " + k, x.asks(0, k, 0), weights[k]);
@@ -143,17 +119,17 @@ public final class PromiseTest {
         Due.is("no such ship", x.asks(-1, 0, 1), NONE);
         Due.is("no such question", x.asks(0, 0, 3), NONE);
         Due.is("no such question", x.asks(0, 0, -1), NONE);
-        x = withLaw("weighs 0-5; goes 0-1");
+        x = Edge.ordinary("weighs 0-5; goes 0-1");
         Due.is("the nearest", x.asks(0, 0, 0), 0);
         Due.is("the nearest", x.asks(0, 0, 1), 0);
-        x = withLaw("weighs 7; weighs 8/0; weighs 9 if day>0; goes 3; goes 2 if 1/0=1; bars if 1%0=0");
+        x = Edge.ordinary("weighs 7; weighs 8/0; weighs 9 if day>0; goes 3; goes 2 if 1/0=1; bars if 1%0=0");
         Due.is("the last that holds", x.asks(0, 0, 0), 7);
         Due.is("the last that holds", x.asks(0, 0, 1), 3);
         Due.is("broken: does not bar", x.asks(0, 0, 2), 0);
-        x = withLaw("goes 3 if sign=0-1 and long=0-1 and means=0; bars if sign=0-1 and long=0-1");
+        x = Edge.ordinary("goes 3 if sign=0-1 and long=0-1 and means=0; bars if sign=0-1 and long=0-1");
         Due.is("sign, long -1", x.asks(0, 2, 1), 3);
         Due.is("sign, long -1", x.asks(0, 2, 2), 1);
-        x = withLaw("weighs ship*50+cell+powder+day+mood+means");
+        x = Edge.ordinary("weighs ship*50+cell+powder+day+mood+means");
         x.ship(20, 1, 4);
         x.terms(0, 7);
         x.terms(2, 3);
@@ -163,7 +139,7 @@ public final class PromiseTest {
 
     private static void p7() {
         WashLine x = new WashLine();
-        hang(x, 3, 0, 2, 1, 1, 3, 0, 0, 2, 1, 3, 2);
+        Edge.hang(x, 3, 0, 2, 1, 1, 3, 0, 0, 2, 1, 3, 2);
         int[] due = {3, 0, 2, 1, 1, 3, 0, 0, 2, 1, 3, 2};
         for (int k = 0; k < 12; k++) {
             Due.is("line(" + k + ")", x.line(k), due[k]);
@@ -231,39 +207,30 @@ public final class PromiseTest {
         Due.is("status()", x.status(), 0);
     }
 
-    private static int row(WashLine x, int... bytes) {
-        StringBuilder text = new StringBuilder();
-        for (int b : bytes) {
-            text.append((char) b);
-        }
-        Due.put(x, text.toString());
-        return x.row();
-    }
-
     private static void p11and12() {
         WashLine x = new WashLine();
         Due.is("an empty tape", x.row(), -6);
         Due.is("status()", x.status(), -6);
-        Due.is("two", row(x, 0, 1, 0, 0, 0, 5, 4, 3, 2, 1), 2);
+        Due.is("two", Edge.row(x, 0, 1, 0, 0, 0, 5, 4, 3, 2, 1), 2);
         Due.is("soap()", x.soap(), 0);
         Due.is("count(6)", x.count(6), 0);
         int[][] soaps = {{6, 1, 1, 0, 0}, {0, 0, 0, 0, 0}, {0, 0, 1, 0, 0}, {0, 1, 0, 1, 0}, {0, 5, 0, 0, 0},
             {0, 1, 1, 0, 2}, {0, 1, 255, 0, 0}, {255, 2, 0, 0, 0}, {1, 1, 0, 0, 0}, {0, 2}, {0, 2, 0, 0}};
         for (int[] bytes : soaps) {
-            Due.is("soap", row(x, bytes), 0);
+            Due.is("soap", Edge.row(x, bytes), 0);
             Due.is("soap()", x.soap(), 1);
         }
         Due.is("an empty tape", x.row(), -6);
         Due.is("soap() of the latest that was not refused", x.soap(), 1);
-        Due.is("twice the same", row(x, 2, 2, 2, 0, 0, 3, 2, 2, 0, 0, 4, 2), 1);
+        Due.is("twice the same", Edge.row(x, 2, 2, 2, 0, 0, 3, 2, 2, 0, 0, 4, 2), 1);
         Due.is("soap()", x.soap(), 2);
         Due.is("at(2, 1)", x.at(2, 1), 2);
         for (int k = 1; k <= 4; k++) {
-            row(x, 0, 3, k, 0, 0);
+            Edge.row(x, 0, 3, k, 0, 0);
         }
-        Due.is("room for one", row(x, 0, 3, 3, 1, 0, 0, 3, 3, 2, 0), 1);
+        Due.is("room for one", Edge.row(x, 0, 3, 3, 1, 0, 0, 3, 3, 2, 0), 1);
         Due.is("soap()", x.soap(), 1);
-        Due.is("no room", row(x, 0, 3, 3, 2, 0), 0);
+        Due.is("no room", Edge.row(x, 0, 3, 3, 2, 0), 0);
         Due.is("status(): not refused", x.status(), 0);
         Due.is("signs", x.count(0), 8);
     }
@@ -395,52 +362,44 @@ public final class PromiseTest {
         ordersFault("  ", 2);
     }
 
-    private static int tested(String test) {
-        WashLine x = new WashLine();
-        x.ship(0, 0, 0);
-        Due.is(test, Due.law(x, "bars if " + test), 0);
-        x.force(0);
-        return x.asks(0, 0, 2);
-    }
-
     private static void broken() {
-        Due.is("the limit", tested("1000*1000*1000 = 1000*1000*1000"), 1);
-        Due.is("beyond it", tested("1000*1000*1000+1 > 0"), 0);
-        Due.is("not of beyond it", tested("not 1000*1000*1000+1 > 0"), 0);
-        Due.is("the limit below", tested("0-1000*1000*1000 < 0"), 1);
-        Due.is("beyond it below", tested("0-1000*1000*1000-1 < 0"), 0);
-        Due.is("beyond it between", tested("1000*1000*1000+1-1 > 0"), 0);
-        Due.is("far beyond", tested("1000*1000*1000*1000*1000*1000*1000*1000 > 0"), 0);
-        Due.is("/ by 0", tested("1/0 = 0"), 0);
-        Due.is("% by 0", tested("1%0 = 0"), 0);
-        Due.is("0 times broken", tested("0*[1/0] = 0"), 0);
-        Due.is("/ cut towards 0", tested("[0-7]/2 = 0-3"), 1);
-        Due.is("% what is left", tested("[0-7]%2 = 0-1"), 1);
-        Due.is("% what is left", tested("7%[0-2] = 1"), 1);
-        Due.is("* ahead of +", tested("2+3*4 = 14"), 1);
-        Due.is("from the left", tested("10-3-2 = 5"), 1);
-        Due.is("from the left", tested("100/5*2%7 = 5"), 1);
-        Due.is("brackets", tested("[2+3]*4 = 20"), 1);
-        Due.is("or: not asked", tested("1=1 or 1/0=1"), 1);
-        Due.is("or: asked", tested("1=2 or 1/0=1"), 0);
-        Due.is("or: broken ahead", tested("1/0=1 or 1=1"), 0);
-        Due.is("or: broken between", tested("1=2 or 1/0=1 or 1=1"), 0);
-        Due.is("and: not asked", tested("not (1=2 and 1/0=1)"), 1);
-        Due.is("and: asked", tested("not (1=1 and 1/0=1)"), 0);
-        Due.is("and: broken ahead", tested("not (1/0=1 and 1=2)"), 0);
-        Due.is("and binds more", tested("1=1 or 1=1 and 1=2"), 1);
-        Due.is("and binds more", tested("(1=1 or 1=1) and 1=2"), 0);
-        Due.is("rows of and, or", tested("1=2 and 1=1 and 1=1 or 1=2 or 2=2 and 3=3"), 1);
-        Due.is("not binds most", tested("not 1=2 and 1=2"), 0);
-        Due.is("not not", tested("not not 1=1"), 1);
-        Due.is("<", tested("1<1"), 0);
-        Due.is(">", tested("1>1"), 0);
-        Due.is("<", tested("0<1"), 1);
-        Due.is(">", tested("1>0"), 1);
+        Due.is("the limit", Edge.so("1000*1000*1000 = 1000*1000*1000"), 1);
+        Due.is("beyond it", Edge.so("1000*1000*1000+1 > 0"), 0);
+        Due.is("not of beyond it", Edge.so("not 1000*1000*1000+1 > 0"), 0);
+        Due.is("the limit below", Edge.so("0-1000*1000*1000 < 0"), 1);
+        Due.is("beyond it below", Edge.so("0-1000*1000*1000-1 < 0"), 0);
+        Due.is("beyond it between", Edge.so("1000*1000*1000+1-1 > 0"), 0);
+        Due.is("far beyond", Edge.so("1000*1000*1000*1000*1000*1000*1000*1000 > 0"), 0);
+        Due.is("/ by 0", Edge.so("1/0 = 0"), 0);
+        Due.is("% by 0", Edge.so("1%0 = 0"), 0);
+        Due.is("0 times broken", Edge.so("0*[1/0] = 0"), 0);
+        Due.is("/ cut towards 0", Edge.so("[0-7]/2 = 0-3"), 1);
+        Due.is("% what is left", Edge.so("[0-7]%2 = 0-1"), 1);
+        Due.is("% what is left", Edge.so("7%[0-2] = 1"), 1);
+        Due.is("* ahead of +", Edge.so("2+3*4 = 14"), 1);
+        Due.is("from the left", Edge.so("10-3-2 = 5"), 1);
+        Due.is("from the left", Edge.so("100/5*2%7 = 5"), 1);
+        Due.is("brackets", Edge.so("[2+3]*4 = 20"), 1);
+        Due.is("or: not asked", Edge.so("1=1 or 1/0=1"), 1);
+        Due.is("or: asked", Edge.so("1=2 or 1/0=1"), 0);
+        Due.is("or: broken ahead", Edge.so("1/0=1 or 1=1"), 0);
+        Due.is("or: broken between", Edge.so("1=2 or 1/0=1 or 1=1"), 0);
+        Due.is("and: not asked", Edge.so("not (1=2 and 1/0=1)"), 1);
+        Due.is("and: asked", Edge.so("not (1=1 and 1/0=1)"), 0);
+        Due.is("and: broken ahead", Edge.so("not (1/0=1 and 1=2)"), 0);
+        Due.is("and binds more", Edge.so("1=1 or 1=1 and 1=2"), 1);
+        Due.is("and binds more", Edge.so("(1=1 or 1=1) and 1=2"), 0);
+        Due.is("rows of and, or", Edge.so("1=2 and 1=1 and 1=1 or 1=2 or 2=2 and 3=3"), 1);
+        Due.is("not binds most", Edge.so("not 1=2 and 1=2"), 0);
+        Due.is("not not", Edge.so("not not 1=1"), 1);
+        Due.is("<", Edge.so("1<1"), 0);
+        Due.is(">", Edge.so("1>1"), 0);
+        Due.is("<", Edge.so("0<1"), 1);
+        Due.is(">", Edge.so("1>0"), 1);
     }
 
     private static void p14to16() {
-        WashLine x = ordinary();
+        WashLine x = Edge.ordinary();
         Due.is("an empty tape", x.orders(), -6);
         Due.is("fault()", x.fault(), 0);
         Due.is("stopped()", x.stopped(), NONE);
@@ -494,9 +453,9 @@ public final class PromiseTest {
     }
 
     private static void p14words() {
-        WashLine x = ordinary();
+        WashLine x = Edge.ordinary();
         x.ship(3, 1, 2);
-        hang(x, 0, 1);
+        Edge.hang(x, 0, 1);
         Due.is("day", told(x, "day"), 0);
         Due.is("done", told(x, "done"), 0);
         Due.is("latest: none", told(x, "latest+1"), 0);
@@ -516,8 +475,8 @@ public final class PromiseTest {
     }
 
     private static void p14all() {
-        WashLine x = ordinary();
-        hang(x, 0, 0, 0, 0, 0, 0, 0, 0);
+        WashLine x = Edge.ordinary();
+        Edge.hang(x, 0, 0, 0, 0, 0, 0, 0, 0);
         for (int k = 0; k < 8; k++) {
             x.pass();
         }
@@ -611,7 +570,7 @@ public final class PromiseTest {
         sailed("wait", one(7, 3, 9, 5, ""), 7, 3, 9);
         sailed("barred", one(7, 0, 9, 0, "bars if means=0"), 7, 0, 9);
         sailed("barred from others", one(7, 0, 9, 0, "bars if means>0"), 12, 0, 9);
-        WashLine x = ordinary();
+        WashLine x = Edge.ordinary();
         Due.is("no cloths", x.sail(0), 0);
         Due.is("no such ship", x.sail(1), -2);
         Due.is("no such ship", x.sail(-1), -2);
@@ -619,18 +578,18 @@ public final class PromiseTest {
         Due.is("-2 ahead of -3", x.sail(1), -2);
         Due.is("no reading", x.sail(0), -3);
         Due.is("can be undone", x.count(5), 2);
-        x = withLaw("goes 1+cell/5 ; bars if means=0 and cell=15; weighs 1");
-        hang(x, 0, 0, 0, 0);
+        x = Edge.ordinary("goes 1+cell/5 ; bars if means=0 and cell=15; weighs 1");
+        Edge.hang(x, 0, 0, 0, 0);
         Due.is("the cell as it is then", x.sail(0), 4);
         sailed("1, then 2, then barred", x, 15, 0, 3);
         Due.is("no day passes", x.count(13), 0);
         Due.is("the line stays", x.count(2), 4);
-        x = withLaw("bars if sign=0-1 and long=0-1 and means=2; goes 2 if sign=0-1 and long=0-1");
-        hang(x, 1, 0);
+        x = Edge.ordinary("bars if sign=0-1 and long=0-1 and means=2; goes 2 if sign=0-1 and long=0-1");
+        Edge.hang(x, 1, 0);
         x.sail(0);
         sailed("neither sign nor long", x, 10, 0, 3);
-        x = withLaw("bars if means=4 and powder<3; weighs 10*powder if sign=2");
-        hang(x, 0, 1, 0, 1);
+        x = Edge.ordinary("bars if means=4 and powder<3; weighs 10*powder if sign=2");
+        Edge.hang(x, 0, 1, 0, 1);
         Due.is("weighs as the ship is ahead of the line", x.sail(0), 4);
         sailed("two signs twice", x, 6, 2, 3);
     }
@@ -647,9 +606,9 @@ public final class PromiseTest {
     }
 
     private static void p22() {
-        WashLine x = ordinary();
+        WashLine x = Edge.ordinary();
         Due.is("undo()", x.undo(), -3);
-        hang(x, 0, 1);
+        Edge.hang(x, 0, 1);
         x.sail(0);
         x.take();
         x.pass();
@@ -718,18 +677,18 @@ public final class PromiseTest {
             Due.is("readings of " + n, x.readings(), due[n - 1]);
             x.hang(0);
         }
-        x = ordinary();
-        hang(x, 0, 1, 2, 2);
+        x = Edge.ordinary();
+        Edge.hang(x, 0, 1, 2, 2);
         Due.is("readings()", x.readings(), 2);
         x.hang(2);
         Due.is("readings()", x.readings(), 0);
     }
 
     private static void p24() {
-        WashLine x = ordinary();
+        WashLine x = Edge.ordinary();
         Due.is("no cloths", x.reads(0, NONE), 0);
         Due.is("no cloths", x.reads(0, 0), NONE);
-        hang(x, 0, 1, 2, 2);
+        Edge.hang(x, 0, 1, 2, 2);
         int[] first = {0, 1, 3};
         Due.is("the first of two", x.reads(0, NONE), 3);
         for (int i = 0; i < 3; i++) {
@@ -741,25 +700,25 @@ public final class PromiseTest {
         Due.is("reads(-1, -1)", x.reads(-1, NONE), NONE);
         x.hang(3);
         Due.is("no reading", x.reads(0, NONE), NONE);
-        x = withLaw("weighs 3; weighs 5 if sign=2");
-        hang(x, 0, 1, 2, 2);
+        x = Edge.ordinary("weighs 3; weighs 5 if sign=2");
+        Edge.hang(x, 0, 1, 2, 2);
         Due.is("the one that weighs least", x.reads(0, NONE), 2);
         Due.is("reads(0, 0)", x.reads(0, 0), 2);
         Due.is("reads(0, 1)", x.reads(0, 1), 3);
-        x = withLaw("weighs 0");
+        x = Edge.ordinary("weighs 0");
         x.ship(1, 1, 1);
-        hang(x, 0, 1);
+        Edge.hang(x, 0, 1);
         Due.is("weighs nothing: the first", x.reads(1, 0), 0);
-        x = withLaw("weighs 9 if ship=0 and sign<2");
+        x = Edge.ordinary("weighs 9 if ship=0 and sign<2");
         x.ship(1, 1, 1);
-        hang(x, 0, 1);
+        Edge.hang(x, 0, 1);
         Due.is("ship 0", x.reads(0, 0), 2);
         Due.is("ship 1", x.reads(1, 0), 0);
     }
 
     private static void p25() {
-        WashLine x = ordinary();
-        hang(x, 0, 1, 0);
+        WashLine x = Edge.ordinary();
+        Edge.hang(x, 0, 1, 0);
         int[] due = {6, 1, 3, NONE, NONE};
         for (int what = 0; what < 5; what++) {
             Due.is("where(0, " + what + ")", x.where(0, what), due[what]);
@@ -770,13 +729,13 @@ public final class PromiseTest {
         sailed("on paper", x, 0, 0, 3);
         x.hang(3);
         Due.is("no reading", x.where(0, 0), NONE);
-        x = withLaw("weighs 5-2*long");
-        hang(x, 0, 1);
+        x = Edge.ordinary("weighs 5-2*long");
+        Edge.hang(x, 0, 1);
         Due.is("fires", x.where(0, 2), 2);
     }
 
     private static void p26() {
-        WashLine x = ordinary();
+        WashLine x = Edge.ordinary();
         Due.is("one ship", x.meetings(NONE), 0);
         x.ship(10, 2, 0);
         x.ship(5, 2, 0);
@@ -790,7 +749,7 @@ public final class PromiseTest {
         x.hang(3);
         Due.is("no reading", x.meetings(NONE), 0);
         Due.is("no reading", x.meetings(0), NONE);
-        x = ordinary();
+        x = Edge.ordinary();
         x.ship(0, 1, 1);
         x.ship(0, 2, 1);
         Due.is("three", x.meetings(NONE), 3);
@@ -811,7 +770,7 @@ public final class PromiseTest {
     }
 
     private static void p27() {
-        WashLine x = ordinary();
+        WashLine x = Edge.ordinary();
         row("where it is", x, 0, 0);
         row("up", x, 5, 1, 0);
         row("right", x, 1, 2, 1, 0);
@@ -891,8 +850,8 @@ public final class PromiseTest {
         mended("no cloths, no signs", x, 0);
         x.hang(0);
         mended("no signs", x, NONE);
-        x = ordinary();
-        hang(x, 0, 1);
+        x = Edge.ordinary();
+        Edge.hang(x, 0, 1);
         mended("nothing to mend: the first reading", x, 0, 0, 1);
         x.hang(3);
         mended("one", x, 1, 0, 1, 0);
@@ -900,7 +859,7 @@ public final class PromiseTest {
         x = new WashLine();
         x.sign(123, 0);
         x.sign(44, 0);
-        hang(x, 3, 3, 3, 3);
+        Edge.hang(x, 3, 3, 3, 3);
         mended("none", x, 0, 1, 1);
         x.hang(0);
         mended("by the end", x, 3, 1, 0);
@@ -933,14 +892,6 @@ public final class PromiseTest {
         return NONE;
     }
 
-    private static WashLine book(int... rows) {
-        WashLine x = new WashLine();
-        for (int row : rows) {
-            x.sign(row, 0);
-        }
-        return x;
-    }
-
     private static void p29and30() {
         int[][] books = {{}, {1}, {1, 2}, {1, 2, 12}, {1, 11}, {12, 21}, {12, 1, 2222, 22}, {1, 21, 12}, {1, 12, 22},
             {1, 1222, 2}, {12, 122, 2}, {112, 1, 21}, {1212, 12}, {121, 212, 12, 21}, {1112, 111, 2111},
@@ -948,24 +899,24 @@ public final class PromiseTest {
             {1221, 1112, 1, 211, 2212}, {1222, 2121, 112, 211, 122, 1}, {4433, 443, 4, 1134, 3444, 3122}};
         for (int[] rows : books) {
             int due = listed(8, rows);
-            int got = book(rows).twofold();
+            int got = Edge.book(rows).twofold();
             Due.holds("twofold of " + Arrays.toString(rows) + ": " + got, due == got || due == NONE && got > 8);
         }
-        Due.is("long: 1 12 22", book(1, 12, 22).twofold(), NONE);
-        Due.is("444 4444", book(444, 4444).twofold(), 7);
+        Due.is("long: 1 12 22", Edge.book(1, 12, 22).twofold(), NONE);
+        Due.is("444 4444", Edge.book(444, 4444).twofold(), 7);
         int[] longer = {3231, 3133, 2212, 1232, 312, 2323, 323};
         Due.is("longer than a line has cloths, listed", listed(18, longer), 18);
-        Due.is("longer than a line has cloths", book(longer).twofold(), 18);
-        Due.is("struck(0), none", book().struck(0), 0);
-        Due.is("struck(1), none", book().struck(1), 0);
-        Due.is("struck(0)", book(1, 2, 12).struck(0), 1);
-        Due.is("struck(1): the lowest", book(1, 2, 12).struck(1), 1);
-        Due.is("struck(1)", book(3, 1, 11, 111).struck(1), 6);
-        Due.is("struck(0)", book(3, 1, 11, 111).struck(0), 2);
-        Due.is("struck(0)", book(1, 11, 111, 1111, 2, 22, 222, 2222).struck(0), 6);
-        Due.is("struck(1)", book(1, 11, 111, 1111, 2, 22, 222, 2222).struck(1), 0x77);
-        Due.is("struck(2)", book(1).struck(2), NONE);
-        Due.is("struck(-1)", book(1).struck(-1), NONE);
+        Due.is("longer than a line has cloths", Edge.book(longer).twofold(), 18);
+        Due.is("struck(0), none", Edge.book().struck(0), 0);
+        Due.is("struck(1), none", Edge.book().struck(1), 0);
+        Due.is("struck(0)", Edge.book(1, 2, 12).struck(0), 1);
+        Due.is("struck(1): the lowest", Edge.book(1, 2, 12).struck(1), 1);
+        Due.is("struck(1)", Edge.book(3, 1, 11, 111).struck(1), 6);
+        Due.is("struck(0)", Edge.book(3, 1, 11, 111).struck(0), 2);
+        Due.is("struck(0)", Edge.book(1, 11, 111, 1111, 2, 22, 222, 2222).struck(0), 6);
+        Due.is("struck(1)", Edge.book(1, 11, 111, 1111, 2, 22, 222, 2222).struck(1), 0x77);
+        Due.is("struck(2)", Edge.book(1).struck(2), NONE);
+        Due.is("struck(-1)", Edge.book(1).struck(-1), NONE);
     }
 
     private static void p31() {
@@ -985,20 +936,20 @@ public final class PromiseTest {
             a = b;
             b = c;
         }
-        Due.is("rows(3) of threes", book(111, 222).rows(3), 2);
-        Due.is("rows(4) of threes", book(111, 222).rows(4), 0);
-        Due.is("rows(20) of fours", book(1111).rows(20), 1);
+        Due.is("rows(3) of threes", Edge.book(111, 222).rows(3), 2);
+        Due.is("rows(4) of threes", Edge.book(111, 222).rows(4), 0);
+        Due.is("rows(20) of fours", Edge.book(1111).rows(20), 1);
     }
 
     private static void p32to34() {
-        WashLine x = ordinary();
+        WashLine x = Edge.ordinary();
         Due.is("seen(-1)", x.seen(-1), -1);
         Due.is("seen(6)", x.seen(6), -1);
         Due.is("forget()", x.forget(), 0);
         Due.is("fits: the reading without signs", x.fits(), 1);
         Due.is("seen(0)", x.seen(0), 1);
         Due.is("fits: no signs, but one was done", x.fits(), 0);
-        hang(x, 0, 1, 0, 1);
+        Edge.hang(x, 0, 1, 0, 1);
         Due.is("fits", x.fits(), 2);
         Due.is("seen(2)", x.seen(2), 2);
         Due.is("fits", x.fits(), 2);
@@ -1050,8 +1001,8 @@ public final class PromiseTest {
     }
 
     private static void p36() {
-        WashLine x = ordinary();
-        hang(x, 0, 1, 2, 2);
+        WashLine x = Edge.ordinary();
+        Edge.hang(x, 0, 1, 2, 2);
         Due.law(x, "weighs 9");
         Due.law(x, "weighs 10*sign; weighs 99 if sign=3");
         Due.is("none", x.compare(NONE, 0), 4);
@@ -1067,7 +1018,7 @@ public final class PromiseTest {
     }
 
     private static void p37and38() {
-        WashLine x = book(1, 2, 33);
+        WashLine x = Edge.book(1, 2, 33);
         Due.is("no ships", x.months(0, 1), -3);
         Due.is("-1 ahead of -3", x.months(0, 0), -1);
         x.ship(0, 0, 5);
@@ -1183,7 +1134,7 @@ public final class PromiseTest {
     }
 
     private static void p39and40() {
-        WashLine x = ordinary();
+        WashLine x = Edge.ordinary();
         for (int k : new int[] {-1, 2, FAR_OFF}) {
             Due.is("image(" + k + ")", x.image(k), -1);
             Due.is("back(" + k + ")", x.back(k), -1);
@@ -1192,7 +1143,7 @@ public final class PromiseTest {
         Due.law(x, "goes 2");
         x.force(0);
         x.seen(3);
-        hang(x, 0, 1);
+        Edge.hang(x, 0, 1);
         x.terms(0, 5);
         x.terms(1, 6);
         x.terms(2, 7);
@@ -1217,7 +1168,7 @@ public final class PromiseTest {
         Due.orders(x, "take times 9");
         x.months(3, 9);
         int months = x.drawn(1, 0);
-        row(x, 9, 9);
+        Edge.row(x, 9, 9);
         x.feed(1, 1, 1, 1, 1);
         Due.is("back(1)", x.back(1), 0);
         int[] counts = {4, 1, 2, 1, 1, 0, 20, 6, 2, 1, 0, 1, 0, 6, 6, 7};
@@ -1266,7 +1217,7 @@ public final class PromiseTest {
     }
 
     private static void p41() {
-        WashLine x = ordinary();
+        WashLine x = Edge.ordinary();
         x.hang(0);
         x.feed(0, 0, 0, 0, 0);
         Due.is("signs", x.count(0), 4);
@@ -1304,7 +1255,7 @@ public final class PromiseTest {
     }
 
     private static void p42() {
-        WashLine x = ordinary();
+        WashLine x = Edge.ordinary();
         Due.is("sign", x.sign(9, 0) + x.status() * 10, -11);
         Due.is("ship", x.ship(1, 1, 1) + x.status() * 10, 1);
         Due.is("terms", x.terms(3, 3) + x.status() * 10, -11);

@@ -2,7 +2,7 @@ import java.io.IOException;
 import java.nio.file.Path;
 import java.util.Arrays;
 
-/** The edges that the document's Terms I, III and IV name, sentence by sentence. */
+/** The edges that the document's Terms I and III name, sentence by sentence. */
 public final class TermsEdgeTest {
     private static final int NONE = Edge.NONE;
     private static final int MAX = Edge.MAX;
@@ -453,6 +453,19 @@ public final class TermsEdgeTest {
         plan(y, 1, NONE);
         Edge.force(y, "goes 0 if powder > 0; bars if powder = 1");
         plan(y, 5, NONE);
+        Edge.force(y, "bars if means = 0");
+        plan(y, 5, NONE);
+        Edge.force(y, "bars if means = 0 and powder > 7; bars if means = 4 and powder < 8");
+        plan(y, 10, 16, 0, 0, 1, 1);
+        WashLine z = Edge.book(1111, 111, 22, 21, 2222);
+        z.sign(3, 2);
+        z.sign(33, 1);
+        z.sign(333, 3);
+        z.ship(24, 0, 0);
+        plan(z, 24, 0);
+        plan(z, 19, 4, 5, 5, 2);
+        plan(z, 23, 4, 6, 2);
+        plan(z, 18, 7, 5, 5, 2, 5, 2);
     }
 
     private static void mended(WashLine x, int cloths, int... signs) {
@@ -499,6 +512,10 @@ public final class TermsEdgeTest {
         Due.is("1 and 1111", Edge.book(1, 1111).twofold(), 4);
         Due.is("11 and 111", Edge.book(11, 111).twofold(), 5);
         Due.is("111 and 1111", Edge.book(111, 1111).twofold(), 7);
+        Due.is("4 and 4444", Edge.book(4, 4444).twofold(), 4);
+        Due.is("444 and 4444", Edge.book(444, 4444).twofold(), 7);
+        Due.is("2221 2 and 2 2 2 12, not a longer one", Edge.book(12, 2221, 2211, 2).twofold(), 5);
+        Due.is("112 1 and 1 1 21, not a longer one", Edge.book(112, 1, 1122, 21).twofold(), 4);
         Due.is("one the beginning of another one, but none has two", Edge.book(1, 12, 22).twofold(), NONE);
         Due.is("1 2222 .. is never as long as 12 2222 ..", Edge.book(1, 12, 2222).twofold(), NONE);
         Due.is("1 2 and 12", Edge.book(1, 12, 22, 2).twofold(), 2);
@@ -526,6 +543,19 @@ public final class TermsEdgeTest {
         struck(2, 6, 3, 1, 11, 111);
         struck(1, 4, 2, 3, 1, 12, 13);
         struck(6, 0x77, 1, 11, 111, 1111, 2, 22, 222, 2222);
+        WashLine x = Edge.book(1, 11, 111, 1111, 2, 22, 222);
+        for (int k = 0; k < 9; k++) {
+            Due.is("each time", x.struck(1), 0x37);
+        }
+        x = Edge.book(1, 11, 111, 1111);
+        for (int k = 0; k < 40; k++) {
+            Due.is("each time", x.struck(0), 3);
+        }
+        x.sign(234, 0);
+        x.sign(2, 0);
+        x.sign(34, 0);
+        Due.is("some more signs", x.struck(0), 4);
+        Due.is("some more signs", x.struck(1), 0x17);
     }
 
     private static void rows() {

@@ -61,6 +61,9 @@ public final class TextsEdgeTest {
         law("goes1", NONE);
         law("goes1if1=1;bars", NONE);
         law("goesx 1", 0);
+        law("goesz 1", 0);
+        law("goesa 1", 0);
+        law("bars if day=1 andz day=1", 14);
         law("go es 1", 0);
         law("goes 1 0", 7);
         law("goes 1if", 8);
@@ -153,6 +156,15 @@ public final class TextsEdgeTest {
         orders("hang " + fifty + "; pass times 2; take", NONE);
         orders("hang cell 0" + "+cell 0".repeat(49), NONE);
         orders("hang cell 0" + "+cell 0".repeat(49) + "+ways", 11 + 49 * 7 + 1);
+        WashLine x = new WashLine();
+        x.image(0);
+        for (int k = 0; k < 12; k++) {
+            Due.is("50 in each text", Due.law(x, "goes " + fifty), 0);
+            Due.is("50 in each text", Due.orders(x, "pass if " + fifty.substring(4) + " = 0"), 0);
+            Due.is("50 in each text", Due.orders(x, "pass if " + fifty.substring(4) + " = 48"), 1);
+            Due.is("51 in one", Due.law(x, "goes " + fifty + "+1"), -6);
+            x.back(0);
+        }
     }
 
     private static void brackets() {
@@ -171,6 +183,16 @@ public final class TextsEdgeTest {
         both("[1]" + "+[1]".repeat(20), NONE);
         law("goes [[[[[[[[1]]]]]]]] if ((((((((1=1))))))))", NONE);
         law("goes [[[[[[[[1]+[1]]]]]]]]", NONE);
+        both("[", 1);
+        both("[1+", 3);
+        both("[[", 2);
+        both("1*[2-", 5);
+        law("bars if (", 9);
+        law("bars if ((", 10);
+        law("bars if (1=1 and", 16);
+        law("bars if (not", 12);
+        law("bars if [", 9);
+        law("bars if 1=[", 11);
         both("[1", 2);
         both("[1)", 2);
         both("[]", 1);
@@ -296,6 +318,9 @@ public final class TextsEdgeTest {
         Due.is("not is closer than or", Edge.so("not 1=1 or 1=1"), 1);
         Due.is("not not", Edge.so("not not 1=1"), 1);
         Due.is("not not not", Edge.so("not not not 1=1"), 0);
+        Due.is("not (not)", Edge.so("not (not 1=1)"), 1);
+        Due.is("not (not (not))", Edge.so("not (not (not 1=1))"), 0);
+        Due.is("not (not (not (not)))", Edge.so("not (not (not (not 1=1)))"), 1);
         String[] notSo = {"1<1", "2<1", "1>1", "1>2", "1=2", "0=1"};
         for (String test : notSo) {
             Due.is(test, Edge.so(test), 0);
@@ -369,6 +394,33 @@ public final class TextsEdgeTest {
         Edge.hang(z, 0, 0, 0);
         z.sail(0);
         Edge.ship("goes as it is then", z, 0, 10, 0, 3);
+    }
+
+    private static void lawWords() {
+        WashLine x = Edge.ordinary("weighs ship; weighs sign + 10 if sign > 0; weighs long * 20 if long = 2; weighs 30 + means if means = 3");
+        x.ship(24, 0, 9);
+        x.ship(0, 0, 0);
+        for (int ship = 0; ship < 3; ship++) {
+            int[] due = {ship, 11, 40, 33};
+            for (int sign = 0; sign < 4; sign++) {
+                Due.is("weighs " + sign + " for " + ship, x.asks(ship, sign, 0), due[sign]);
+            }
+        }
+        Edge.force(x, "weighs cell * 2; bars if powder = 9; bars if powder = 0 and ship = 2; goes day - 997; goes mood if mood < 9");
+        Due.is("cell 24", x.asks(1, 0, 0), 48);
+        Due.is("cell 0", x.asks(2, 0, 0), 0);
+        Due.is("powder 9", x.asks(1, 0, 2), 1);
+        Due.is("powder 0", x.asks(2, 5, 2), 1);
+        Due.is("powder 3", x.asks(0, 5, 2), 0);
+        x.terms(2, 2);
+        Due.is("mood 2", x.asks(0, 0, 1), 2);
+        x.terms(2, 9);
+        x.terms(0, 999);
+        Due.is("mood 9, day 999", x.asks(0, 0, 1), 2);
+        x.terms(0, 998);
+        Due.is("mood 9, day 998", x.asks(0, 0, 1), 1);
+        x.terms(2, 0);
+        Due.is("mood 0", x.asks(0, 0, 1), 0);
     }
 
     private static void holds() {
@@ -474,6 +526,7 @@ public final class TextsEdgeTest {
         Edge.hang(x, 0, 1);
         Due.is("latest: two signs", Due.orders(x, "sail 0; hang 2 times 2; sail 0; pass if latest = 3; take times 3; sail 0; pass if latest = 1"), 10);
         Due.is("done: none at first", Due.orders(x, "pass if done = 0; pass if done = 0; pass if done = 1"), 2);
+        Due.is("done: those not run do not count", Due.orders(x, "pass times 5 if done < 3; pass if done = 3; pass if done = 4 and 1=2; pass if done = 4"), 5);
         Due.is("cell -1 without such a ship", Due.orders(x, "pass if cell 1 = 0-1 and cell 2 = 0-1"), 1);
         Due.is("powder -1 without such a ship", Due.orders(x, "pass if powder 1 = 0-1 and powder 2 = 0-1"), 1);
         x.ship(24, 0, 9);
@@ -564,6 +617,8 @@ public final class TextsEdgeTest {
         Edge.is("sign, long -1; cell, powder: as it is then", TextsEdgeTest::minusOne);
         Edge.is("(cell, powder: of the SHIP, as it is ahead of the LINE)", TextsEdgeTest::aheadOfTheLine);
         Edge.is("is so, and neither that nor its SUM is BROKEN.", TextsEdgeTest::holds);
+        Edge.is("Words: \"ship\" | \"sign\" | \"long\" | \"means\" | \"cell\" | \"powder\" | \"day\" | \"mood\".",
+            TextsEdgeTest::lawWords);
         Edge.is("A SIGN WEIGHS 0 .. 99 for a SHIP as the last \"weighs\" that HOLDS tells (else the nearest), its LONG without;",
             TextsEdgeTest::nearest);
         Edge.is("AHEAD a SHIP GOES 0 .. 4 CELLS, 1 without;", TextsEdgeTest::goes);

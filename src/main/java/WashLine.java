@@ -54,7 +54,7 @@ public final class WashLine {
     private static final int FAR = 1000000;
 
     /** Beyond what any sum may be: it stands for a broken one and for a law that tells nothing. */
-    private static final long BROKEN = Long.MIN_VALUE;
+    private static final long BROKEN = -4000000000000000000L;
 
     private static final long WHOLE = 1000000000000L;
 
